@@ -16,7 +16,7 @@ public final class ModelTest {
     }
 
     public static void main(String[] args) {
-        int runs = args.length > 0 ? Integer.parseInt(args[0]) : 400;
+        int runs = args.length > 0 ? Integer.parseInt(args[0]) : 200;
         long seed = args.length > 1 ? Long.parseLong(args[1]) : 1;
         for (int run = 0; run < runs && wrong == 0; run++) {
             new ModelTest(seed * 1000003 + run).go(60);

@@ -1,0 +1,63 @@
+/** Counts and prints the answers that are not as due, by promise. */
+final class Check {
+    private int wrong;
+
+    void due(int promise, String call, long got, long want) {
+        if (got != want) {
+            wrong++;
+            System.out.println("promise " + promise + ": " + call + " answered " + got + ", due is " + want);
+        }
+    }
+
+    void holds(int promise, String what, boolean is) {
+        due(promise, what, is ? 1 : 0, 1);
+    }
+
+    /** All that told() and count() say, so that two states can be held against one another. */
+    static String state(BoltRing x) {
+        StringBuilder all = new StringBuilder();
+        for (int k = 0; k < x.count(0); k++) {
+            for (int what = 0; what < 8; what++) {
+                all.append(x.told(k, what)).append(' ');
+            }
+        }
+        for (int what = 0; what < 9; what++) {
+            all.append(x.count(what)).append(' ');
+        }
+        return all.toString();
+    }
+
+    static BoltRing ringOf(int n, int rib) {
+        BoltRing x = new BoltRing();
+        x.joint(n, rib);
+        return x;
+    }
+
+    /** Sets one of stiffness, pads, turns, loads of all bolts. */
+    static void setAll(BoltRing x, int what, int... values) {
+        for (int k = 0; k < values.length; k++) {
+            x.set(k, what, values[k]);
+        }
+    }
+
+    /** Whether a bolt's pull is t or more. */
+    static boolean hasPull(BoltRing x, int k, int t) {
+        return x.force(k, 0, 0) >= t * x.force(k, 0, 1);
+    }
+
+    static boolean allHave(BoltRing x, int t) {
+        for (int k = 0; k < x.count(0); k++) {
+            if (x.told(k, 4) == 0 && !hasPull(x, k, t)) {
+                return false;
+            }
+        }
+        return true;
+    }
+
+    void end() {
+        if (wrong != 0) {
+            System.out.println(wrong + " answers are not as due");
+            System.exit(1);
+        }
+    }
+}
