@@ -6,6 +6,7 @@ public final class DrawingTest {
     public static void main(String[] args) {
         drawByHand();
         drawLeast();
+        drawLeastInManyRings();
         drawBoltAlone();
         drawRefused();
         rows();
@@ -83,16 +84,17 @@ public final class DrawingTest {
         C.due(8, "draw(0, 301)", x.draw(0, 301), 61);
         C.due(8, "draw(0, 315)", x.draw(0, 315), 7);
         C.due(8, "told(0, 2)", x.told(0, 2), 68);
-        for (int t = 1; t < 400; t++) {
-            BoltRing y = Check.ringOf(3, 1);
-            y.broken(0, true);
-            y.broken(2, true);
-            y.set(1, 0, 1 + t % 4);
-            y.set(1, 1, 1);
-            if (y.draw(1, t) > 0) {
-                C.holds(8, "it has " + t, Check.hasPull(y, 1, t));
-                y.set(1, 2, y.told(1, 2) - 1);
-                C.holds(8, "one turn less is not enough for " + t, !Check.hasPull(y, 1, t));
+    }
+
+    /** So many rings that some need just a little more than a whole number of turns. */
+    private static void drawLeastInManyRings() {
+        for (int ring = 0; ring < 20000; ring++) {
+            BoltRing x = ringAsItComes(3, ring);
+            int t = 1 + ring * 31 % 300;
+            if (x.draw(1, t) > 0) {
+                C.holds(8, "it has " + t, Check.hasPull(x, 1, t));
+                x.set(1, 2, x.told(1, 2) - 1);
+                C.holds(8, "one turn less is not enough for " + t + ", ring " + ring, !Check.hasPull(x, 1, t));
             }
         }
     }

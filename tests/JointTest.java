@@ -330,8 +330,11 @@ public final class JointTest {
         C.due(7, "count(8) with a fault", x.count(8), 0);
         x = Check.ringOf(3, 1);
         x.set(0, 2, 10);
-        C.due(7, "count(2) right after a change", x.count(2), 2);
-        x.set(0, 2, 0);
+        C.due(7, "count(2)", x.count(2), 2);
+        C.due(7, "force(0, 2, 0)", x.force(0, 2, 0), 100);
+        Check.setAll(x, 2, 1, 1, 1);
+        C.due(7, "count(2) right after a change", x.count(2), 0);
+        Check.setAll(x, 2, 0, 0, 0);
         C.due(7, "count(3) right after a change", x.count(3), 3);
     }
 }
