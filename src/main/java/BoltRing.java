@@ -14,6 +14,7 @@ public final class BoltRing {
     private static final int MOST_LOAD = 200;
     private static final int MOST_PULL = 900;
     private static final int MOST_READING = 2000;
+    private static final int MOST_WEIGHT = 9;
 
     private static final int STIFFNESS = 0;
     private static final int PAD = 1;
@@ -251,7 +252,7 @@ public final class BoltRing {
     // ---- misses, readings
 
     public int weights(int a, int b, int c) {
-        if (!within(a, 0, 9) || !within(b, 0, 9) || !within(c, 0, 9) || a + b + c == 0) {
+        if (!within(a, 0, MOST_WEIGHT) || !within(b, 0, MOST_WEIGHT) || !within(c, 0, MOST_WEIGHT) || a + b + c == 0) {
             return OUTSIDE;
         }
         misses.weigh(a, b, c);
