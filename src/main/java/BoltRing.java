@@ -831,6 +831,8 @@ public final class BoltRing {
 
         int count;
         final int[][] loads = new int[MOST][MOST_BOLTS];
+        private long leastUpper;
+        private long leastLower = 1;
 
         boolean has(int i) {
             return i >= 0 && i < count;
@@ -850,15 +852,10 @@ public final class BoltRing {
 
         int findWorst(Joint ring, Lifts lifts) {
             int worst = NONE;
-            long leastUpper = 0;
-            long leastLower = 1;
             for (int i = NONE; i < count; i++) {
                 lifts.settle(ring, loadsOf(i, ring));
-                long press = lifts.pressUpper(ring, lifts.leakPlace(ring));
-                if (i == NONE || compareFractions(press, lifts.lower, leastUpper, leastLower) < 0) {
+                if (leaksMost(ring, lifts, i == NONE)) {
                     worst = i;
-                    leastUpper = press;
-                    leastLower = lifts.lower;
                 }
             }
             return worst;
@@ -866,8 +863,6 @@ public final class BoltRing {
 
         int findWeakest(Joint ring, Lifts lifts) {
             int weakest = NONE;
-            long leastUpper = 0;
-            long leastLower = 1;
             for (int k = 0; k < ring.bolts && ring.wholeCount() > 1; k++) {
                 if (ring.isBroken(k)) {
                     continue;
@@ -875,14 +870,22 @@ public final class BoltRing {
                 ring.markBroken(k, true);
                 lifts.settle(ring, ring.loads);
                 ring.markBroken(k, false);
-                long press = lifts.pressUpper(ring, lifts.leakPlace(ring));
-                if (weakest == NONE || compareFractions(press, lifts.lower, leastUpper, leastLower) < 0) {
+                if (leaksMost(ring, lifts, weakest == NONE)) {
                     weakest = k;
-                    leastUpper = press;
-                    leastLower = lifts.lower;
                 }
             }
             return weakest;
+        }
+
+        /** Whether the least press of the settled lifts is below all since the first; it is kept then. */
+        private boolean leaksMost(Joint ring, Lifts lifts, boolean first) {
+            long press = lifts.pressUpper(ring, lifts.leakPlace(ring));
+            if (!first && compareFractions(press, lifts.lower, leastUpper, leastLower) >= 0) {
+                return false;
+            }
+            leastUpper = press;
+            leastLower = lifts.lower;
+            return true;
         }
     }
 
