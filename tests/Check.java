@@ -1,3 +1,5 @@
+import java.math.BigInteger;
+
 /** Counts and prints the answers that are not as due, by promise. */
 final class Check {
     private int wrong;
@@ -27,6 +29,36 @@ final class Check {
         return all.toString();
     }
 
+    /** Feeds a text by eight bytes a call; the higher bytes of the last call are none of it. */
+    static void feed(BoltRing x, String text) {
+        for (int at = 0; at < text.length(); at += 8) {
+            String part = text.substring(at, Math.min(text.length(), at + 8));
+            x.feed(part.length(), packed(part));
+        }
+    }
+
+    static long packed(String text) {
+        long bytes = 0;
+        for (int i = 0; i < text.length(); i++) {
+            bytes = bytes << 8 | text.charAt(i);
+        }
+        return bytes;
+    }
+
+    static int read(BoltRing x, String text) {
+        feed(x, text);
+        return x.read();
+    }
+
+    /** PULL (0), PRESS (1) or LIFT (2) of a bolt. */
+    static Fraction force(BoltRing x, int k, int force) {
+        return Fraction.of(BigInteger.valueOf(x.force(k, force, 0)), BigInteger.valueOf(x.force(k, force, 1)));
+    }
+
+    static Fraction leak(BoltRing x, int i) {
+        return Fraction.of(BigInteger.valueOf(x.leak(i, 0)), BigInteger.valueOf(x.leak(i, 1)));
+    }
+
     static BoltRing ringOf(int n, int rib) {
         BoltRing x = new BoltRing();
         x.joint(n, rib);
@@ -52,6 +84,11 @@ final class Check {
             }
         }
         return true;
+    }
+
+    /** The bolts from the last to the first, as a number. */
+    static int backward(int n) {
+        return 543210 % new int[] {1000, 10000, 100000, 1000000}[n - 3];
     }
 
     void end() {

@@ -3,11 +3,16 @@ import java.util.Random;
 /** Random runs of calls on the program and on the model: every answer must be the same. */
 public final class ModelTest {
     private static int wrong = 0;
+    // an object is used for at most 512 calls; a step and the look behind it take fewer than 100
+    private static final int MOST_CALLS = 512 - 100;
+
     private static int calls = 0;
+    private static int callsOfRun;
     private static StringBuilder trace;
 
     private static void same(String call, long got, long want) {
         calls++;
+        callsOfRun++;
         trace.append("  ").append(call).append(" -> ").append(got).append('\n');
         if (got != want) {
             wrong++;
@@ -16,10 +21,10 @@ public final class ModelTest {
     }
 
     public static void main(String[] args) {
-        int runs = args.length > 0 ? Integer.parseInt(args[0]) : 200;
+        int runs = args.length > 0 ? Integer.parseInt(args[0]) : 500;
         long seed = args.length > 1 ? Long.parseLong(args[1]) : 1;
         for (int run = 0; run < runs && wrong == 0; run++) {
-            new ModelTest(seed * 1000003 + run).go(60);
+            new ModelTest(seed * 1000003 + run).go();
         }
         System.out.println(wrong == 0 ? calls + " answers are the model's" : "the run above differs");
         if (wrong != 0) {
@@ -33,6 +38,7 @@ public final class ModelTest {
 
     private ModelTest(long seed) {
         random = new Random(seed);
+        callsOfRun = 0;
         trace = new StringBuilder("run of seed " + seed + ":\n");
     }
 
@@ -61,9 +67,9 @@ public final class ModelTest {
         }
     }
 
-    private void go(int length) {
+    private void go() {
         setUp();
-        for (int i = 0; i < length && wrong == 0; i++) {
+        while (callsOfRun < MOST_CALLS && wrong == 0) {
             int group = random.nextInt(10);
             if (group < 2) {
                 stepJoint();
@@ -102,7 +108,15 @@ public final class ModelTest {
         same("set(" + k + ", " + what + ", " + v + ")", x.set(k, what, v), m.set(k, what, v));
     }
 
+    /** At everything now and then, else at one bolt's lift and one count. */
     private void look() {
+        if (random.nextInt(5) > 0) {
+            int k = from(0, m.n - 1);
+            int what = from(0, 8);
+            same("force(" + k + ", 2, 0)", x.force(k, 2, 0), m.force(k, 2, 0));
+            same("count(" + what + ")", x.count(what), m.count(what));
+            return;
+        }
         for (int k = 0; k < m.n; k++) {
             for (int force = 0; force < 3; force++) {
                 for (int what = 0; what < 2; what++) {
