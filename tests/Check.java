@@ -86,6 +86,26 @@ final class Check {
         return true;
     }
 
+    /** Six bolts, of which bolt 2 pulls 126 and 2 parts of 19828313 more. */
+    static BoltRing hardlyAbove() {
+        BoltRing x = ringOf(6, 8);
+        setAll(x, 0, 1, 2, 5, 1, 9, 1);
+        setAll(x, 1, 1, 3, 9, 6, 4, 8);
+        setAll(x, 2, 54, 44, 26, 22, 93, 68);
+        setAll(x, 3, 138, 0, 182, 194, 0, 98);
+        return x;
+    }
+
+    /** Six bolts, of which bolt 4 pulls 22 less one part of 3373815. */
+    static BoltRing hardlyBelow() {
+        BoltRing x = ringOf(6, 5);
+        setAll(x, 0, 8, 6, 5, 3, 6, 5);
+        setAll(x, 1, 4, 2, 1, 4, 4, 1);
+        setAll(x, 2, 128, 95, 181, 78, 38, 47);
+        setAll(x, 3, 0, 0, 0, 0, 0, 148);
+        return x;
+    }
+
     /** The bolts from the last to the first, as a number. */
     static int backward(int n) {
         return 543210 % new int[] {1000, 10000, 100000, 1000000}[n - 3];

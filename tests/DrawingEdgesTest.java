@@ -7,6 +7,7 @@ public final class DrawingEdgesTest {
 
     public static void main(String[] args) {
         pullOfJustT();
+        pullOfHardlyT();
         leastTurnsNotBelow();
         twoHundredAtMost();
         twoHundredInManyRings();
@@ -79,6 +80,23 @@ public final class DrawingEdgesTest {
             x.set(0, 2, 17);
             C.due(8, "draw(1, 30) where it has a little less", x.draw(1, 30), 1);
         }
+    }
+
+    /** "T or more": less than T by a millionth is too little, more by as much is enough. */
+    private static void pullOfHardlyT() {
+        BoltRing x = Check.hardlyAbove();
+        C.due(8, "draw(2, 126)", x.draw(2, 126), 0);
+        C.due(8, "draw(2, 127)", x.draw(2, 127), 1);
+        x = Check.hardlyBelow();
+        C.due(8, "draw(4, 21)", x.draw(4, 21), 0);
+        C.due(8, "draw(4, 22)", x.draw(4, 22), 1);
+        x = Check.hardlyBelow();
+        for (int k = 0; k < 6; k++) {
+            C.due(8, "draw of the others to 22", k == 4 ? 0 : x.draw(k, 22), 0);
+        }
+        C.due(11, "passes(21)", x.passes(21), 0);
+        C.due(11, "passes(22) of just that one", x.passes(22), 1);
+        C.due(11, "by one turn", x.told(4, 2), 39);
     }
 
     /** "the least, not below what they are": a bolt that has more keeps it, also where less would do. */

@@ -20,6 +20,8 @@ public final class JointEdgesTest {
         leastTerms();
         slackAtJustNoPull();
         openAtJustNoPress();
+        pressOfTheLeastLift();
+        hardlyWholePulls();
         slackOfBroken();
         allButOneBroken();
         brokenIsWhatItWas();
@@ -367,6 +369,34 @@ public final class JointEdgesTest {
         C.due(6, "no press below 0", x.force(2, 1, 0), 0);
         C.holds(6, "the lift is below 0", x.force(2, 2, 0) < 0);
         C.due(7, "OPEN ones", x.count(3), 1);
+    }
+
+    /** "if z is above 0": however little, the PAD presses by it. */
+    private static void pressOfTheLeastLift() {
+        int[][][] rings = {{{2, 8, 9}, {9, 4, 9}, {31, 2, 1}, {80, 23, 3}}, {{5, 2, 1}, {9, 1, 3}, {8, 26, 25}, {41, 6, 59}},
+            {{3, 6, 1}, {4, 9, 3}, {22, 8, 54}, {74, 61, 2}}};
+        int[] ribs = {1, 2, 1};
+        int[] bolts = {2, 0, 0};
+        for (int i = 0; i < rings.length; i++) {
+            BoltRing x = ringOf(3, ribs[i], rings[i], 0);
+            Fraction lift = Check.force(x, bolts[i], 2);
+            C.holds(6, "a lift of little", lift.compareTo(Fraction.of(0)) > 0
+                    && lift.compareTo(Fraction.of(1).over(Fraction.of(200))) < 0);
+            C.due(5, "it is not OPEN", x.told(bolts[i], 6), 0);
+            balances(x, 3, ribs[i], rings[i], 0);
+        }
+    }
+
+    /** "pulls, pads and lifts told exactly": pulls that differ from whole numbers by millionths. */
+    private static void hardlyWholePulls() {
+        BoltRing x = Check.hardlyAbove();
+        C.due(6, "force(2, 0, 0)", x.force(2, 0, 0), 2498367440L);
+        C.due(6, "force(2, 0, 1)", x.force(2, 0, 1), 19828313);
+        balances(x, 6, 8, new int[][] {{1, 2, 5, 1, 9, 1}, {1, 3, 9, 6, 4, 8}, {54, 44, 26, 22, 93, 68}, {138, 0, 182, 194, 0, 98}}, 0);
+        x = Check.hardlyBelow();
+        C.due(6, "force(4, 0, 0)", x.force(4, 0, 0), 74223929);
+        C.due(6, "force(4, 0, 1)", x.force(4, 0, 1), 3373815);
+        balances(x, 6, 5, new int[][] {{8, 6, 5, 3, 6, 5}, {4, 2, 1, 4, 4, 1}, {128, 95, 181, 78, 38, 47}, {0, 0, 0, 0, 0, 148}}, 0);
     }
 
     /** "of a BROKEN one 0": though its turns are far above its lift. */

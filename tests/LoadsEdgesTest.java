@@ -18,6 +18,7 @@ public final class LoadsEdgesTest {
         leaksLastPlace();
         worstOfNoCase();
         worstOfLikeOnes();
+        worstByHardlyAnything();
         worstOfEach();
         weakestOfLikeOnes();
         weakestBesideBroken();
@@ -288,6 +289,32 @@ public final class LoadsEdgesTest {
         }
         Check.setAll(x, 3, 199, 199, 199, 199);
         C.due(17, "the joint's own, without press, too", x.worst(), NONE);
+    }
+
+    /** "that with the least LEAK": less by billionths is less. */
+    private static void worstByHardlyAnything() {
+        int[] less = {46, 97, 197, 112, 67, 189};
+        int[] more = {155, 107, 88, 105, 162, 114};
+        for (int first = 0; first < 2; first++) {
+            BoltRing x = Check.ringOf(6, 9);
+            Check.setAll(x, 0, 7, 9, 8, 4, 5, 7);
+            Check.setAll(x, 1, 4, 2, 9, 1, 2, 7);
+            Check.setAll(x, 2, 157, 162, 186, 143, 132, 146);
+            x.newCase();
+            x.newCase();
+            for (int k = 0; k < 6; k++) {
+                x.load(first, k, less[k]);
+                x.load(1 - first, k, more[k]);
+            }
+            Fraction gap = Check.leak(x, 1 - first).less(Check.leak(x, first));
+            C.holds(16, "hardly any gap", gap.compareTo(Fraction.of(0)) > 0
+                    && gap.compareTo(Fraction.of(1).over(Fraction.of(200000000))) < 0);
+            C.due(17, "worst()", x.worst(), first);
+            Check.setAll(x, 3, less);
+            C.due(17, "worst(), like the joint's own", x.worst(), NONE);
+            Check.setAll(x, 3, more);
+            C.due(17, "worst(), less than the joint's own", x.worst(), first);
+        }
     }
 
     /** Each CASE, the first and the sixth among them, and the joint's own. */

@@ -23,6 +23,7 @@ public final class MissesEdgesTest {
         readingInThePlaceOfAnOlder();
         readingsGo();
         fitFromLowToHigh();
+        hardlyFromLowToHigh();
         fitOfBroken();
         fitOfAllReadings();
         suspectsByThree();
@@ -414,6 +415,23 @@ public final class MissesEdgesTest {
         C.due(23, "fit() of no pull", x.fit(), 0);
         x.reading(0, 2000, 2000);
         C.due(23, "fit() of no pull", x.fit(), 0);
+    }
+
+    /** "lies from low to high": beyond by a millionth it does not, within by as much it does. */
+    private static void hardlyFromLowToHigh() {
+        BoltRing x = Check.hardlyAbove();
+        x.reading(2, 0, 126);
+        C.due(23, "fit() of hardly above", x.fit(), 0);
+        x.reading(2, 126, 2000);
+        C.due(23, "fit() of hardly above", x.fit(), 1);
+        x = Check.hardlyBelow();
+        x.reading(4, 22, 2000);
+        C.due(23, "fit() of hardly below", x.fit(), 0);
+        x.reading(4, 0, 22);
+        C.due(23, "fit() of hardly below", x.fit(), 1);
+        x.weights(0, 1, 0);
+        chance(20, x, 22, 2000, 0, 1);
+        chance(20, x, 21, 2000, 1, 1);
     }
 
     /** "of a BROKEN one 0": so its READING is held against a pull of 0. */
