@@ -1,4 +1,6 @@
 import java.io.IOException;
+import java.lang.reflect.Field;
+import java.lang.reflect.Modifier;
 import java.nio.file.Files;
 import java.nio.file.Path;
 import java.util.Set;
@@ -36,6 +38,10 @@ public final class LanguageTest {
         }
         holds("more than twelve classes", own.size() <= 12);
         methodsAreShort(code);
+        fieldsAreFewAndKept(BoltRing.class);
+        for (Class<?> inside : BoltRing.class.getDeclaredClasses()) {
+            fieldsAreFewAndKept(inside);
+        }
         if (wrong != 0) {
             System.exit(1);
         }
@@ -55,6 +61,18 @@ public final class LanguageTest {
             words.add(matcher.group());
         }
         return words;
+    }
+
+    /** Static fields are final constants; a class has some twenty others at most. */
+    private static void fieldsAreFewAndKept(Class<?> owner) {
+        int fields = 0;
+        for (Field field : owner.getDeclaredFields()) {
+            boolean constant = Modifier.isStatic(field.getModifiers());
+            fields += constant ? 0 : 1;
+            holds("static state: " + field, !constant || Modifier.isFinal(field.getModifiers())
+                    && (field.getType().isPrimitive() || field.getType() == String.class));
+        }
+        holds("more than twenty fields: " + owner, fields <= 20);
     }
 
     /** A method begins with a line that ends in ') {' and no control word, and ends at its own depth. */
